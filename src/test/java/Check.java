@@ -1,0 +1,58 @@
+/** Counts answers that are not as due; a test's main method ends with Check.end(). */
+final class Check {
+    private static int wrong = 0;
+    private static int checked = 0;
+
+    private Check() {
+    }
+
+    /** A call that may throw. */
+    interface Call {
+        void run();
+    }
+
+    static void due(String what, long got, long due) {
+        checked++;
+        if (got != due) {
+            wrong++;
+            System.out.println(what + " answered " + got + ", due is " + due);
+        }
+    }
+
+    static void holds(String what, boolean held) {
+        due(what, held ? 1 : 0, 1);
+    }
+
+    private static void fails(String what, Class<? extends RuntimeException> due, Call call) {
+        Class<?> got = null;
+        try {
+            call.run();
+        } catch (RuntimeException e) {
+            got = e.getClass();
+        }
+        checked++;
+        if (got != due) {
+            wrong++;
+            System.out.println(what + " threw " + got + ", due is " + due);
+        }
+    }
+
+    static void noPlace(String what, Call call) {
+        fails(what, IndexOutOfBoundsException.class, call);
+    }
+
+    static void noArgument(String what, Call call) {
+        fails(what, IllegalArgumentException.class, call);
+    }
+
+    static void noState(String what, Call call) {
+        fails(what, IllegalStateException.class, call);
+    }
+
+    static void end() {
+        System.out.println(checked + " answers, " + wrong + " not as due");
+        if (wrong != 0) {
+            System.exit(1);
+        }
+    }
+}
