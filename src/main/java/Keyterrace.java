@@ -67,7 +67,7 @@ public final class Keyterrace {
         requireKey(a, b, c);
         requireBegun(t);
         long code = codeOf(a, b, c);
-        look(t, code);
+        t.look(cell, code, store.entryIn(code, t.readsAt));
         if (cell.stamped) {
             throw new IllegalStateException("the value is stamped");
         }
@@ -142,11 +142,19 @@ public final class Keyterrace {
     public int commit(int transaction) throws IndexOutOfBoundsException, IllegalStateException {
         Transaction t = transactionAt(transaction);
         requireBegun(t);
-        int outcome = outcomeOf(t);
-        if (outcome != LOST) {
+        int told = toldUndone(t);
+        if (told != NONE) {
             t.begun = false;
+            return told;
         }
-        return outcome;
+        boolean lost = losing != NOT_LOSING;
+        boolean done = losing != LOSING_UNDONE;
+        losing = NOT_LOSING;
+        if (done) {
+            settle(t);
+        }
+        t.begun = lost;
+        return lost ? LOST : store.now;
     }
 
     public int why() {
@@ -261,16 +269,7 @@ public final class Keyterrace {
         requireRecord(number);
         requireField(field);
         requireRoom(t);
-        int goes = readIndexes(t, number);
-        int before = readRecord(t, number);
-        for (int index = 0; index < INDEXES; index++) {
-            if ((goes >> index & 1) == 1) {
-                takeAway(t, index, number, before);
-                putThere(t, index, number, field);
-            }
-        }
-        keep(t, SET, codeOf(RECORDS, number), field);
-        return before;
+        return writeRecord(t, number, field);
     }
 
     public int erase(int transaction, int number)
@@ -278,18 +277,7 @@ public final class Keyterrace {
         Transaction t = transactionAt(transaction);
         requireRecord(number);
         requireRoom(t);
-        int goes = readIndexes(t, number);
-        int before = readRecord(t, number);
-        if (before == NONE) {
-            return NONE;
-        }
-        for (int index = 0; index < INDEXES; index++) {
-            if ((goes >> index & 1) == 1) {
-                takeAway(t, index, number, before);
-            }
-        }
-        keep(t, CLEARED, codeOf(RECORDS, number), 0);
-        return before;
+        return writeRecord(t, number, NONE);
     }
 
     public int build(int index, int most)
@@ -346,7 +334,7 @@ public final class Keyterrace {
         if (watches.size() >= MOST_WATCHES) {
             throw new IllegalStateException("there are too many watches");
         }
-        watches.add(new Watch(codeOf(a, b, c)));
+        watches.add(new Watch(store.keyFor(codeOf(a, b, c))));
         return watches.size() - 1;
     }
 
@@ -597,10 +585,6 @@ public final class Keyterrace {
 
     // Reading and changing in transactions.
 
-    private void look(Transaction t, long code) {
-        t.look(cell, code, store.entryIn(code, t.readsAt));
-    }
-
     private void listSeen(Transaction t, long low, long high) {
         seen.clear();
         for (int i = store.placeFrom(low); i < store.keys.size(); i++) {
@@ -621,7 +605,8 @@ public final class Keyterrace {
         t.keepKey(kind, code, value);
     }
 
-    private int outcomeOf(Transaction t) {
+    /** What a commit answers that changes nothing more; NONE if it is to be done. */
+    private int toldUndone(Transaction t) {
         if (t.once && t.doneAt != NONE) {
             return t.doneAt;
         }
@@ -632,23 +617,14 @@ public final class Keyterrace {
             return TOO_OLD;
         }
         int met = firstMet(t);
-        if (met != NONE) {
-            lastMet = met;
-            return CONFLICT;
+        if (met == NONE) {
+            return NONE;
         }
-        return losing == NOT_LOSING ? settle(t) : loseAnswer(t);
+        lastMet = met;
+        return CONFLICT;
     }
 
-    private int loseAnswer(Transaction t) {
-        boolean done = losing == LOSING_DONE;
-        losing = NOT_LOSING;
-        if (done) {
-            t.doneAt = settle(t);
-        }
-        return LOST;
-    }
-
-    private int settle(Transaction t) {
+    private void settle(Transaction t) {
         store.advance(1);
         for (int i = 0; i < t.changes.size(); i++) {
             store.applyInOrder(t.changes.get(i));
@@ -656,18 +632,19 @@ public final class Keyterrace {
         for (int i = 0; i < t.changes.size(); i++) {
             store.applyStamped(t.changes.get(i));
         }
+        t.doneAt = store.now;
         closeCommit();
-        return store.now;
     }
 
     private void closeCommit() {
         for (int i = 0; i < watches.size(); i++) {
             Watch watch = watches.get(i);
-            if (watch.firedBy == NONE && store.turnedNow(watch.code)) {
+            if (watch.firedBy == NONE && watch.key != null && watch.key.turnedIn(store.now)) {
                 watch.firedBy = store.now;
             }
         }
-        parting.follow(store.listHeld(ALL_LOW, ALL_HIGH));
+        parting.split(store.listHeld(ALL_LOW, ALL_HIGH));
+        parting.join();
     }
 
     private int firstMet(Transaction t) {
@@ -784,7 +761,7 @@ public final class Keyterrace {
     }
 
     private int readCounting(Transaction t, long code) {
-        look(t, code);
+        t.look(cell, code, store.entryIn(code, t.readsAt));
         t.putDownKey(code);
         return cell.told();
     }
@@ -800,14 +777,27 @@ public final class Keyterrace {
         return goes;
     }
 
-    private int readRecord(Transaction t, int number) {
-        return readCounting(t, codeOf(RECORDS, number));
+    /** Saves a record, or, for the field NONE, erases it; answers the field before. */
+    private int writeRecord(Transaction t, int number, int field) {
+        int goes = readIndexes(t, number);
+        int before = readCounting(t, codeOf(RECORDS, number));
+        if (before == NONE && field == NONE) {
+            return NONE;
+        }
+        for (int index = 0; index < INDEXES; index++) {
+            boolean going = (goes & 1 << index) != 0;
+            if (going && before != NONE) {
+                takeAway(t, index, number, before);
+            }
+            if (going && field != NONE) {
+                putThere(t, index, number, field);
+            }
+        }
+        keep(t, field == NONE ? CLEARED : SET, codeOf(RECORDS, number), field);
+        return before;
     }
 
     private void takeAway(Transaction t, int index, int number, int before) {
-        if (before == NONE) {
-            return;
-        }
         if (index == 0) {
             keep(t, CLEARED, codeOf(BY_FIELD, before, number), 0);
         } else if (index == 1) {
@@ -936,6 +926,10 @@ public final class Keyterrace {
 
         boolean isHeld() {
             return latest != null && latest.present;
+        }
+
+        boolean turnedIn(int version) {
+            return !Entry.alike(entryIn(version), entryIn(version - 1));
         }
     }
 
@@ -1142,12 +1136,16 @@ public final class Keyterrace {
 
         /** The key, made if it was not there; null only far behind the 512th call. */
         Key keyFor(long code) {
-            Key there = find(code);
-            if (there != null || keys.size() >= MOST_KEYS) {
+            int place = placeFrom(code);
+            Key there = place < keys.size() ? keys.get(place) : null;
+            if (there != null && there.code == code) {
                 return there;
             }
+            if (keys.size() >= MOST_KEYS) {
+                return null;
+            }
             Key key = new Key(code);
-            keys.add(placeFrom(code), key);
+            keys.add(place, key);
             return key;
         }
 
@@ -1174,10 +1172,6 @@ public final class Keyterrace {
                 }
             }
             return held;
-        }
-
-        boolean turnedNow(long code) {
-            return !Entry.alike(entryIn(code, now), entryIn(code, now - 1));
         }
 
         void applyInOrder(Change change) {
@@ -1274,13 +1268,8 @@ public final class Keyterrace {
             parts.add(new Part(ALL_LOW, 0));
         }
 
-        void follow(ArrayList<Key> keys) {
-            split(keys);
-            join();
-        }
-
         /** Going once from the first part to the last one splits them in the document's order: what is split off comes next. */
-        private void split(ArrayList<Key> keys) {
+        void split(ArrayList<Key> keys) {
             int from = 0;
             for (int i = 0; i < parts.size() && i <= MOST_KEYS; i++) {
                 Part part = parts.get(i);
@@ -1307,7 +1296,7 @@ public final class Keyterrace {
             return end;
         }
 
-        private void join() {
+        void join() {
             int i = 0;
             while (i + 1 < parts.size()) {
                 Part first = parts.get(i);
@@ -1366,11 +1355,11 @@ public final class Keyterrace {
     }
 
     private static final class Watch {
-        final long code;
+        final Key key;
         int firedBy = NONE;
 
-        Watch(long code) {
-            this.code = code;
+        Watch(Key key) {
+            this.key = key;
         }
     }
 }
