@@ -959,26 +959,27 @@ public final class Keyterrace {
         }
 
         void apply(int kind, int given, int stamp) {
-            value = outcome(kind, given, stamp);
-            stamped = kind == STAMPED_VALUE || (stamped && kind != SET && kind != CLEARED);
-            present = kind != CLEARED;
-        }
-
-        private int outcome(int kind, int given, int stamp) {
             switch (kind) {
                 case CLEARED:
-                    return 0;
+                    value = 0;
+                    break;
                 case ADDED:
-                    return present ? value + given : given;
+                    value = present ? value + given : given;
+                    break;
                 case MOST:
-                    return present ? Math.max(value, given) : given;
+                    value = present ? Math.max(value, given) : given;
+                    break;
                 case LEAST:
-                    return present ? Math.min(value, given) : given;
+                    value = present ? Math.min(value, given) : given;
+                    break;
                 case STAMPED_VALUE:
-                    return stamp;
+                    value = stamp;
+                    break;
                 default:
-                    return given;
+                    value = given;
             }
+            stamped = kind == STAMPED_VALUE || (stamped && kind != SET && kind != CLEARED);
+            present = kind != CLEARED;
         }
 
         int told() {

@@ -66,11 +66,14 @@ public final class DirectoriesTest {
         put(x, 4, 7);
         put(x, 1, 1);
         put(x, 0, 1);
+        x.watch(4, 7, A);
         x.begin(0, false);
         x.get(0, 3, 3, A, true);
         x.change(0, Keyterrace.SET, 8, A, A, 1);
         Check.due("all that are below", x.remove(one), 3);
         Check.due("one commit", x.version(), 7);
+        Check.due("a watch is fired by it", x.fired(0), 7);
+        Check.due("the part has fewer keys", x.part(0, 1), 3);
         Check.due("cleared", x.value(7, 4, 6, A), N);
         Check.due("not the others", x.value(7, 2, 5, A) + x.value(7, 0, 1, A), 2);
         Check.due("ranges without keys are cleared, too", x.commit(0), Keyterrace.CONFLICT);

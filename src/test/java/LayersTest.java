@@ -110,11 +110,17 @@ public final class LayersTest {
             x.offer(0, 10 * i);
             x.commit(0);
         }
+        x.watch(-7, 1, A);
+        x.watch(-5, 2, A);
         x.take(0);
         x.take(1);
         x.take(1);
+        Check.due("a watch fired by a lease", x.fired(0), 4);
+        Check.due("6 keys", x.part(0, 1), 6);
         Check.due("the first of the worker 1", x.finish(1), 20);
         Check.due("by one commit", x.version(), 7);
+        Check.due("a watch fired by it", x.fired(1), 7);
+        Check.due("4 keys", x.part(0, 1), 4);
         Check.due("the work is gone", x.value(7, -5, 2, A), N);
         Check.due("the lease, too", x.value(7, -7, 2, A), N);
         Check.due("the second", x.finish(1), 30);

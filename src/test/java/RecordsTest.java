@@ -144,6 +144,38 @@ public final class RecordsTest {
         Check.due("ON", y.value(2, -6, 2, A), 1000);
     }
 
+    private static void buildToTheLast() {
+        Keyterrace x = new Keyterrace();
+        saved(x, 1, 1, 2, 3);
+        x.off(0);
+        Check.due("the first", x.build(0, 1), 1);
+        Check.due("records without gap", x.value(x.version(), -6, 0, A), 1);
+        Check.due("just the rest", x.build(0, 2), 2);
+        Check.due("ON, as there are none behind it", x.value(x.version(), -6, 0, A), 1000);
+    }
+
+    private static void oneIndexOnly() {
+        Keyterrace x = new Keyterrace();
+        saved(x, 1, 1);
+        x.off(0);
+        x.off(1);
+        x.begin(0, false);
+        x.save(0, 2, 1);
+        x.offer(0, 1);
+        x.save(0, 2, 5);
+        Check.due("its stamped key first, and another one", kept(x, 0), 4);
+        x.save(0, 1, 5);
+        int version = x.commit(0);
+        Check.due("the one put anew", x.value(version, -4, version, 2), 5);
+        Check.due("the work", x.value(version, -5, version, A), 1);
+        Check.due("the one before", x.value(version, -4, 1, 1), N);
+        x.build(1, 20);
+        x.off(2);
+        saved(x, 6, 1);
+        Check.due("by count alone", x.value(x.version(), -3, 5, A), 1);
+        Check.due("not by version", x.value(x.version(), -4, x.version(), 1), N);
+    }
+
     private static void buildWhileWriting() {
         Keyterrace x = new Keyterrace();
         saved(x, 1, 1, 5);
@@ -188,8 +220,8 @@ public final class RecordsTest {
         Check.noArgument("rank(-1)", () -> x.rank(-1));
         Check.noArgument("rankAnew(100)", () -> x.rankAnew(100));
         Check.noArgument("rankAnew(-1)", () -> x.rankAnew(-1));
-        saved(x, 0, 1, 2);
-        saved(x, 50, 3);
+        saved(x, 0, 0, 2);
+        saved(x, 50, 99);
         saved(x, 99, 4);
         int[] fields = {0, 1, 50, 51, 99};
         int[] due = {0, 2, 2, 3, 3};
@@ -208,6 +240,8 @@ public final class RecordsTest {
         readings();
         erase();
         build();
+        buildToTheLast();
+        oneIndexOnly();
         buildWhileWriting();
         off();
         rank();

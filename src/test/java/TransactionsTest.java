@@ -276,6 +276,9 @@ public final class TransactionsTest {
         put(x, 1, A, A, 5);
         Check.due("ADDED never conflicts", x.commit(0), 5);
         Check.due("it adds to what is there then", x.value(5, 1, A, A), 6);
+        Check.noState("over, with changes, too", () -> x.commit(0));
+        Check.noState("over for reading", () -> x.get(0, 1, A, A, true));
+        Check.noState("over for changes", () -> x.change(0, SET, 1, A, A, 1));
     }
 
     private static void conflicts() {
@@ -339,6 +342,22 @@ public final class TransactionsTest {
         x.change(3, STAMPED_KEY, 1, 0, A, 0);
         x.commit(3);
         Check.due("the one with the version", x.commit(0), CONFLICT);
+        neighbours(x);
+    }
+
+    private static void neighbours(Keyterrace x) {
+        x.begin(0, false);
+        x.get(0, 9, 2, A, true);
+        x.range(0, 9, 5, true);
+        x.range(0, 11, A, true);
+        x.change(0, SET, 2, A, A, 1);
+        put(x, 9, 2, -999, 1);
+        put(x, 9, 1, 9999, 1);
+        wipe(x, 9, 4);
+        wipe(x, 9, 6);
+        wipe(x, 10, A);
+        wipe(x, 12, A);
+        Check.due("keys and ranges beside these", x.commit(0), x.version());
     }
 
     private static void ownChanges() {
@@ -523,6 +542,7 @@ public final class TransactionsTest {
         Check.noArgument("version 23", () -> x.value(23, 1, A, A));
         Check.noArgument("no key", () -> x.value(22, 1, A, 1));
         Check.due("ahead of it", x.value(21, 1, A, A), N);
+        Check.due("in the version 0", x.value(0, 1, A, A), N);
         Check.due("then", x.value(22, 1, A, A), 4);
         wipe(x, 1, A);
         Check.due("cleared", x.value(23, 1, A, A), N);
