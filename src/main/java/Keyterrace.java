@@ -1011,6 +1011,11 @@ public final class Keyterrace {
             return high - low > 1;
         }
 
+        /** Whether what keys have behind it does not hang on what they had ahead of it. */
+        boolean saysAll() {
+            return kind == SET || kind == CLEARED || kind == STAMPED_VALUE;
+        }
+
         boolean covers(long code) {
             return isInOrder() && low <= code && code < high;
         }
@@ -1077,7 +1082,7 @@ public final class Keyterrace {
         boolean owns(long low, long high, int first) {
             for (int i = 0; i < changes.size() && i < first; i++) {
                 Change change = changes.get(i);
-                if ((change.kind == SET || change.kind == CLEARED) && change.low <= low && high <= change.high) {
+                if (change.saysAll() && change.low <= low && high <= change.high) {
                     return true;
                 }
             }

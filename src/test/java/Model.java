@@ -180,7 +180,7 @@ final class Model {
 
     private static boolean own(List<Integer> key, List<Change> changes) {
         for (Change c : changes) {
-            if (c.kind <= 1 && (c.range ? within(key, c.key) : key.equals(c.key))) {
+            if ((c.kind <= 1 || c.kind == 5) && (c.range ? within(key, c.key) : key.equals(c.key))) {
                 return true;
             }
         }

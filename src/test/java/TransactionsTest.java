@@ -409,6 +409,45 @@ public final class TransactionsTest {
         x.range(0, 1, A, true);
         put(x, 1, 2, A, 1);
         Check.due("MOST hangs on what was there", x.commit(0), CONFLICT);
+        ownStamps();
+    }
+
+    private static void ownStamps() {
+        Keyterrace x = new Keyterrace();
+        put(x, 1, 1, A, 9);
+        x.begin(0, false);
+        x.change(0, STAMPED_VALUE, 1, 1, A, 0);
+        x.change(0, ADDED, 1, 1, A, 1);
+        x.range(0, 1, A, true);
+        put(x, 1, 1, A, 9);
+        Check.due("a STAMPED value hangs on nothing else", x.commit(0), 3);
+        Check.due("the stamp and 1", x.value(3, 1, 1, A), 4);
+        x.begin(0, false);
+        x.range(0, 1, A, true);
+        x.change(0, STAMPED_VALUE, 1, 1, A, 0);
+        put(x, 1, 1, A, 9);
+        Check.due("STAMPED behind the reading", x.commit(0), CONFLICT);
+        x.begin(0, false);
+        x.change(0, STAMPED_VALUE, 1, 1, A, 0);
+        x.rangeAt(0, 1, A, 0, 0);
+        put(x, 1, 2, A, 9);
+        Check.due("another key of the range", x.commit(0), CONFLICT);
+        x.begin(0, false);
+        x.change(0, STAMPED_VALUE, 1, 1, A, 0);
+        x.range(0, 1, 1, true);
+        wipe(x, 1, 1);
+        Check.due("(1, 1, 0) was not STAMPED", x.commit(0), CONFLICT);
+        x.begin(0, false);
+        x.change(0, STAMPED_KEY, 1, 0, A, 0);
+        x.range(0, 1, A, true);
+        put(x, 1, 0, A, 9);
+        Check.due("a STAMPED key is not what it is told as", x.commit(0), CONFLICT);
+        x.begin(0, false);
+        x.change(0, STAMPED_VALUE, 1, 1, A, 0);
+        x.lose(true);
+        Check.due("LOST, done", x.commit(0), LOST);
+        x.range(0, 1, A, true);
+        Check.due("it does not meet itself", x.commit(0), x.version());
     }
 
     private static void why() {
