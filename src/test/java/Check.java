@@ -2,6 +2,7 @@
 final class Check {
     private static int wrong = 0;
     private static int checked = 0;
+    private static String sentence = "";
 
     private Check() {
     }
@@ -11,11 +12,17 @@ final class Check {
         void run();
     }
 
+    /** The words of a promise (0: those ahead of promise 1) by which the answers behind this call are due. */
+    static void says(int promise, String words) {
+        sentence = "[" + promise + ": " + words + "] ";
+        holds("these words of the document", Document.section(promise).contains(words));
+    }
+
     static void due(String what, long got, long due) {
         checked++;
         if (got != due) {
             wrong++;
-            System.out.println(what + " answered " + got + ", due is " + due);
+            System.out.println(sentence + what + " answered " + got + ", due is " + due);
         }
     }
 
@@ -23,7 +30,7 @@ final class Check {
         due(what, held ? 1 : 0, 1);
     }
 
-    private static void fails(String what, Class<? extends RuntimeException> due, Call call) {
+    static void fails(String what, Class<? extends RuntimeException> due, Call call) {
         Class<?> got = null;
         try {
             call.run();
@@ -33,7 +40,7 @@ final class Check {
         checked++;
         if (got != due) {
             wrong++;
-            System.out.println(what + " threw " + got + ", due is " + due);
+            System.out.println(sentence + what + " threw " + got + ", due is " + due);
         }
     }
 

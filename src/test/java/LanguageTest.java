@@ -84,6 +84,32 @@ public final class LanguageTest {
             .allMatch("import java.util.ArrayList;"::equals));
     }
 
+    /** The public methods of the program behind one of its headings, up to the next one. */
+    private static String group(String program, String heading) {
+        int from = program.indexOf("    // ---- " + heading + "\n");
+        String rest = from < 0 ? "" : program.substring(from + 4);
+        int end = rest.indexOf("// ---- ", 1);
+        Matcher matcher = Pattern.compile("(?m)^    public \\w+ (\\w+)\\(").matcher(end < 0 ? rest : rest.substring(0, end));
+        StringBuilder names = new StringBuilder();
+        while (matcher.find()) {
+            names.append(names.isEmpty() ? "" : " ").append(matcher.group(1));
+        }
+        return names.toString();
+    }
+
+    private static void groups(String program) {
+        Check.says(0, "the interface says: ---- transactions.");
+        Check.holds("its calls", group(program, "transactions").equals("begin get range rangeAt change clear commit why lose "
+            + "recover pass value packed version"));
+        Check.says(0, "the interface says: ---- directories.");
+        Check.holds("its calls", group(program, "directories").equals("directory move remove shortName named"));
+        Check.says(0, "the interface says: ---- records.");
+        Check.holds("its calls", group(program, "records").equals("save erase build off rank rankAnew"));
+        Check.says(0, "the interface says: ---- watches, work, parts, marks.");
+        Check.holds("its calls", group(program, "watches, work, parts, marks").equals("watch fired offer take finish parts part "
+            + "mark bringBack"));
+    }
+
     public static void main(String[] args) throws IOException {
         String program = Files.readString(Path.of("src/main/java/Keyterrace.java"));
         String document = Files.readString(Path.of("../shared/DOC.md"));
@@ -93,6 +119,7 @@ public final class LanguageTest {
         Set<String> names = publicNames();
         Check.holds("no other public methods", names.equals(due.keySet()));
         members(names);
+        groups(program);
         words(Arrays.asList(program.split("\n")));
         Check.end();
     }
