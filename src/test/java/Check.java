@@ -30,17 +30,21 @@ final class Check {
         due(what, held ? 1 : 0, 1);
     }
 
+    /** The exception has to be of just this class, and thrown by the program, not by the machine or the library. */
     static void fails(String what, Class<? extends RuntimeException> due, Call call) {
         Class<?> got = null;
+        boolean own = false;
         try {
             call.run();
         } catch (RuntimeException e) {
+            StackTraceElement[] at = e.getStackTrace();
             got = e.getClass();
+            own = at.length > 0 && at[0].getClassName().startsWith("Keyterrace");
         }
         checked++;
-        if (got != due) {
+        if (got != due || !own) {
             wrong++;
-            System.out.println(sentence + what + " threw " + got + ", due is " + due);
+            System.out.println(sentence + what + " threw " + got + (own ? "" : ", not by itself") + ", due is " + due);
         }
     }
 

@@ -193,6 +193,12 @@ public final class ReadingEdgesTest {
         notMet("the key that it begins with", get(1, 1, A), put(1, A, A));
         notMet("a key beside a range", range(1, 1), put(1, 2, A));
         notMet("the first number of a range of two", range(1, 1), put(1, A, A));
+        notMet("the key just behind one", get(1, 1, 1), put(1, 1, 2));
+        notMet("the key just ahead of one", get(1, 1, 1), put(1, 1, 0));
+        notMet("the key just behind a range", range(1, 1), put(1, 2, A));
+        notMet("the key just ahead of a range", range(1, 1), put(1, 0, 9999));
+        notMet("the key just behind a range of one number", range(1, A), put(2, A, A));
+        notMet("the key just ahead of a range of one number", range(1, A), put(0, 9999, 9999));
         notMet("nothing was read", x -> { }, put(1, 1, A));
         Check.says(3, "`counts`: whether it counts that it is read");
         notMet("it does not", x -> x.get(0, 1, 1, A, false), put(1, 1, A));
@@ -225,6 +231,10 @@ public final class ReadingEdgesTest {
         met("a STAMPED key that is told as it", all(change(STAMPED_KEY, 1, 1, A), get(1, 1, A)), put(1, 1, A));
         met("another key SET", all(change(SET, 1, 1, 1), get(1, 1, A)), put(1, 1, A));
         met("another range cleared", all(clear(1, 2), get(1, 1, A)), put(1, 1, A));
+        met("the key just behind the one SET", all(change(SET, 1, 1, 1), get(1, 1, 2)), put(1, 1, 2));
+        met("the key just ahead of the one SET", all(change(SET, 1, 1, 1), get(1, 1, 0)), put(1, 1, 0));
+        met("the key just behind the range cleared", all(clear(1, 1), get(1, 2, A)), put(1, 2, A));
+        met("the key just ahead of the range cleared", all(clear(1, 1), get(1, 0, 9999)), put(1, 0, 9999));
         met("SET behind it", all(get(1, 1, A), change(SET, 1, 1, A)), put(1, 1, A));
         met("cleared behind it", all(get(1, 1, A), clear(1, A)), put(1, 1, A));
         Check.says(0, "with whatever was done to them behind that;");
@@ -250,6 +260,10 @@ public final class ReadingEdgesTest {
             met("read ahead and behind", all(range(1, A), change(kind, 1, 1, A), range(1, A)), put(1, 1, A));
         }
         notMet("a range kept then", all(clear(1, A), range(1, A)), put(1, 5, 5));
+        met("the key just behind the one SET", all(change(SET, 1, 1, 1), range(1, A)), put(1, 1, 2));
+        met("the key just ahead of the one SET", all(change(SET, 1, 1, 1), range(1, A)), put(1, 1, 0));
+        met("the key just behind the range cleared", all(clear(1, 1), range(1, A)), put(1, 2, A));
+        met("the key just ahead of the range cleared", all(clear(1, 1), range(1, A)), put(1, 0, 9999));
         met("one of two numbers", all(clear(1, 2), range(1, A)), put(1, 1, A));
         met("kept behind it", all(range(1, A), clear(1, A)), put(1, 5, 5));
         met("ADDED alone", all(change(ADDED, 1, 1, A), range(1, A)), put(1, 1, A));
@@ -296,7 +310,15 @@ public final class ReadingEdgesTest {
             + "in a range that it read, it is a CONFLICT");
         notMet("by the commit of the version at which it reads", get(1, 2, A), x -> { });
         notMet("nor a range by that", range(1, A), x -> { });
+        Keyterrace cleared = new Keyterrace();
+        States.clearRange(cleared, 1, A);
+        cleared.begin(0, false);
+        cleared.get(0, 1, 1, A, true);
+        cleared.range(0, 1, A, true);
+        cleared.change(0, SET, 2, A, A, 1);
+        Check.due("a range cleared by the commit of that version", cleared.commit(0), 2);
         met("by the commit behind it", get(1, 2, A), put(1, 2, A));
+        met("a range cleared by the commit behind it", get(1, 2, A), wipe(1, A));
         met("by one far behind it", get(1, 2, A), all(put(1, 2, A), x -> x.pass(10), x -> x.pass(10), put(8, A, A)));
         met("CLEARED", get(1, 2, A), x -> States.clearKey(x, 1, 2, A));
         met("by a STAMPED key", get(1, 3, A), x -> {
@@ -364,6 +386,10 @@ public final class ReadingEdgesTest {
         Check.due("the first of two keys", whyOf(all(get(1, 2, A), get(1, 1, A)), all(put(1, 1, A), put(1, 2, A))), 0);
         Check.due("a range cleared", whyOf(all(get(2, A, A), range(3, A)), wipe(3, 3)), 1);
         Check.due("a range ahead of a key", whyOf(all(range(1, A), get(1, 1, A)), put(1, 1, A)), 0);
+        Check.due("a key of its own is not put down", whyOf(all(change(SET, 2, A, A), get(2, A, A), clear(3, A),
+            get(3, 3, A), get(1, 1, A)), put(1, 1, A)), 0);
+        Check.due("a range is, with keys of its own, too", whyOf(all(clear(3, A), range(3, A), get(1, 1, A)),
+            put(1, 1, A)), 1);
         Check.due("a range that was its own, read anew", whyOf(all(change(SET, 1, 1, A), range(1, A), clear(1, A),
             range(1, A)), put(1, 2, A)), 0);
         Check.due("what a record reads", whyOf(x -> x.save(0, 5, 5), x -> States.saved(x, 5, 6)), 3);

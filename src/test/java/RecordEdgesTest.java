@@ -343,6 +343,14 @@ public final class RecordEdgesTest {
         Check.due("what is for another one stays", now(x, -4, 7, 11), 1);
         Check.due("so does work", now(x, -5, 7, A), 4);
         Check.due("it is gone", now(x, -4, 7, 12), N);
+        x.off(0);
+        x.off(1);
+        x.begin(0, false);
+        x.save(0, 13, 1);
+        x.save(0, 13, 2);
+        Check.due("gone as the first change, too", kept(x), 3);
+        x.commit(0);
+        Check.due("the last one", now(x, -4, 10, 13), 2);
     }
 
     private static void building() {
