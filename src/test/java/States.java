@@ -100,7 +100,7 @@ final class States {
             x.directory(name / 3, name);
         }
         for (int i = 0; i < 20; i++) {
-            x.watch(1, i, A);
+            x.watch(1, i + 1, A);
         }
         offered(x, 3);
         x.take(1);
