@@ -225,28 +225,18 @@ public final class ChangeEdgesTest {
     private static void goingRound() {
         Check.says(0, "A value is a whole number of 32 bits (that which is told as NONE, too, if it comes to be that).");
         Keyterrace x = new Keyterrace();
-        // A value is at most 1000000: 12 changes, done again and again as answers are LOST, take the fewest calls.
-        int version = 0;
-        for (int i = 0; i < 6; i++) {
-            x.begin(0, false);
-            for (int j = 0; j < 12; j++) {
-                x.change(0, ADDED, 1, A, A, 1000000);
-            }
-            for (int j = 0; j < 29; j++) {
-                x.lose(true);
-                x.commit(0);
-                version++;
-            }
-        }
-        Check.due("2088 millions", x.value(version, 1, A, A), 2088000000);
-        add(x, 4, 1000000);
-        add(x, 1, 483647);
-        int left = MAX - x.value(x.version(), 1, A, A);
-        Check.due("what is left to the greatest", left, 55000000);
         for (int i = 0; i < 5; i++) {
-            add(x, 11, 1000000);
+            addMillions(x, 31);
         }
-        Check.due("the greatest", x.value(x.version(), 1, A, A), MAX);
+        addMillions(x, 23);
+        Check.due("12 millions, 178 times", x.value(178, 1, A, A), 2136000000);
+        x.begin(0, false);
+        for (int i = 0; i < 11; i++) {
+            x.change(0, ADDED, 1, A, A, 1000000);
+        }
+        x.change(0, ADDED, 1, A, A, 483647);
+        x.commit(0);
+        Check.due("the greatest", x.value(179, 1, A, A), MAX);
         x.watch(1, A, A);
         x.begin(1, false);
         x.change(1, ADDED, 1, A, A, 1);
@@ -270,13 +260,16 @@ public final class ChangeEdgesTest {
         Check.due("1 less goes round to the greatest", x.get(1, 1, A, A, true), MAX);
     }
 
-    /** Adds a value some times, at most 12, by one commit. */
-    private static void add(Keyterrace x, int times, int value) {
+    /** Adds 12 millions by each of some commits, at most 31: their answers are LOST, as that takes the fewest calls. */
+    private static void addMillions(Keyterrace x, int commits) {
         x.begin(0, false);
-        for (int i = 0; i < times; i++) {
-            x.change(0, ADDED, 1, A, A, value);
+        for (int i = 0; i < 12; i++) {
+            x.change(0, ADDED, 1, A, A, 1000000);
         }
-        x.commit(0);
+        for (int i = 0; i < commits; i++) {
+            x.lose(true);
+            x.commit(0);
+        }
     }
 
     private static void stampedKeys() {

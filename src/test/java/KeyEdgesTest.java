@@ -243,22 +243,22 @@ public final class KeyEdgesTest {
     private static void fiveHundredAndTwelveCalls() {
         Check.says(0, "An object is used for at most 512 calls after it has been made");
         Keyterrace x = new Keyterrace();
-        for (int i = 0; i < 500; i++) {
+        for (int i = 0; i < 499; i++) {
             x.pass(10);
         }
-        Check.due("begin", x.begin(0, false), 5000);
+        Check.due("begin", x.begin(0, false), 4990);
         x.change(0, Keyterrace.STAMPED_KEY, 1, 1, A, 7);
         x.offer(0, 9);
-        Check.due("commit", x.commit(0), 5001);
-        Check.due("the stamp", x.value(5001, 1, 5001, A), 7);
+        Check.due("commit", x.commit(0), 4991);
+        Check.due("the stamp", x.value(4991, 1, 4991, A), 7);
         Check.due("work", x.take(2), 9);
-        Check.due("its lease", x.value(5002, -7, 5001, A), 25012);
-        Check.due("recover", x.recover(), 5012);
+        Check.due("its lease", x.value(4992, -7, 4991, A), 25002);
+        Check.due("recover", x.recover(), 5002);
         Check.due("the lease is over", x.take(1), 9);
-        Check.due("of another one", x.value(5013, -7, 5001, A), 15023);
+        Check.due("of another one", x.value(5003, -7, 4991, A), 15013);
         Check.due("finish", x.finish(1), 9);
-        Check.due("pass", x.pass(10), 5024);
-        Check.due("version", x.version(), 5024);
+        Check.due("pass", x.pass(10), 5014);
+        Check.due("the 512th: version", x.version(), 5014);
     }
 
     public static void main(String[] args) {
